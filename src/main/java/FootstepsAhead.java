@@ -476,8 +476,9 @@ public final class FootstepsAhead {
      * a set of ways is an int with the bits of their indexes.
      */
     private static final class World {
+        /** Of LEAD, START, FALL and MINUTES. */
         private static final int[] LEAST = {0, 0, 0, 1};
-        private static final int[] MOST = {MOST_LEAD, 200, 99, 30};
+        private static final int[] MOST = {60, 200, 99, 30};
         private static final int OWN_WAYS = 15;
 
         int walkers;
@@ -1059,6 +1060,7 @@ public final class FootstepsAhead {
             if (stale) {
                 list();
                 observe();
+                forget();
                 gather();
                 stale = false;
             }
@@ -1097,8 +1099,18 @@ public final class FootstepsAhead {
                 visible[i] = tracks;
             }
             Arrays.fill(painted, 0);
-            Arrays.fill(worked, 0);
             return other;
+        }
+
+        /** What THE LAW gives is to be worked out anew. */
+        void forget() {
+            Arrays.fill(worked, 0);
+        }
+
+        void forgetOne(int walker) {
+            for (int sight = 0; sight < SIGHTS; sight++) {
+                worked[walker * SIGHTS + sight] = 0;
+            }
         }
 
         private int firstPlace(int walker) {
@@ -1107,8 +1119,11 @@ public final class FootstepsAhead {
 
         void gather() {
             holds = 0;
-            for (int d = 0; d < size; d++) {
-                if (isHeld(numbers[d], waysTaken[d])) {
+            // Days unlike in WALKER 0's way alone stand together: one of them at most holds.
+            int alike = Math.max(world.ways[0], 1);
+            for (int first = 0; first < size; first += alike) {
+                int d = world.walkers > 0 ? first + lawful(0, waysTaken[first]) : first;
+                if (d < size && holds < DAYS && isHeld(numbers[d], waysTaken[d])) {
                     held[holds] = d;
                     holds++;
                 }
@@ -1392,13 +1407,17 @@ public final class FootstepsAhead {
 
         /** SHOES: the LEAD (0), how many (1). */
         int bestLead(int walker, int what) {
-            boolean always = days.lawNamesLead();
+            boolean lawDiffers = days.lawNamesLead();
             int own = world.lead(walker);
             int best = NOT;
             int fewest = NOT;
             for (int lead = 0; lead <= MOST_LEAD; lead++) {
                 world.tryLead(walker, lead);
-                if (days.observe() || always) {
+                boolean sightsDiffer = days.observe();
+                if (lawDiffers) {
+                    days.forgetOne(walker);
+                }
+                if (sightsDiffer || lawDiffers) {
                     days.gather();
                 }
                 if (days.holds > 0 && (fewest == NOT || days.holds < fewest)) {
@@ -1439,6 +1458,7 @@ public final class FootstepsAhead {
             for (int time = 0; time < n; time++) {
                 z = drawLeads(z);
                 days.observe();
+                days.forget();
                 days.gather();
                 together += days.holds;
                 none += days.holds == 0 ? 1 : 0;
@@ -1658,7 +1678,8 @@ public final class FootstepsAhead {
     private static final class Bodies {
         static final int KINDS = 8;
         private static final int TRACK = 0, NEAR = 1, FAR = 2, BESIDE = 3, FALSE = 4, SHOD = 5, DANCED = 6, LAST = 7;
-        private static final int[] ABOVE = {-1, TRACK, TRACK, FAR, NEAR, BESIDE, TRACK, DANCED};
+        /** The KIND that each is under. */
+        private static final int[] ABOVE = {-1, 0, 0, 2, 1, 3, 0, 6};
         private static final int MOST = 50, TRACED = 24;
         /** No act comes near it: each call goes up a kind, or on to a simpler act. */
         private static final int DEEPEST = 40;

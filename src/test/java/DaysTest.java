@@ -261,7 +261,11 @@ public final class DaysTest {
         }
         due.is("count 1", x.count(1), 20);
         due.is("day 1023", x.day(1023, 1), 0 + 50);
-        due.is("day 1024", x.day(1024, 1), -1);
+        int[] none = {-1, -2, -1024, 1024, 2047, Integer.MAX_VALUE, Integer.MIN_VALUE};
+        for (int day : none) {
+            due.is("day " + day, x.day(day, 1), -1);
+            due.is("follow " + day, x.follow(day, 1), -1);
+        }
         Due.law(x, "k%4");
         due.is("one holds", x.holding(-1), 1);
         due.is("it is", x.holding(0), 0 + 4 + 2 * 16 + 3 * 64 + 0 * 256);

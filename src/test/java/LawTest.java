@@ -164,6 +164,13 @@ public final class LawTest {
         gives("2>1?1+1", 2);
         gives("0?1;0?1;0?1;0?1;0?1;2", 2);
         gives("7%4?7%4;1", 3);
+        StringBuilder longest = new StringBuilder("-1");
+        for (int i = 0; i < 59; i++) {
+            longest.append(i < 58 ? "+1" : "+2");
+        }
+        gives(longest.toString(), 59);
+        gives("(1|(1&(0<(1+(2*(3%4" + "))))))", 1);
+        gives("0|1&0<0+1*(1|0&0<1+1*(0|1&0<2+1*(0|1&2<3+2*(0|0&0<1+3*(0|0&0<0+5*(3))))))", 1);
     }
 
     /** s, n, k, l, w and m of three walkers, each put into a value below its number of ways. */

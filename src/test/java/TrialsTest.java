@@ -66,6 +66,17 @@ public final class TrialsTest {
         x.mend(1, 0, 60);
         Due.law(x, "k=1?1;l=37?1;n=0?0;n");
         due.is("all alike", x.shoes(0, 0), 0);
+        FootstepsAhead y = new FootstepsAhead(); // by 41 alone, 0 comes where 1 and 2 see it
+        Due.walker(y, 3);
+        Due.way(y, 0, 0, 1, 0);
+        for (int w = 1; w < 3; w++) {
+            Due.walker(y, 0, 1, 0);
+            Due.way(y, w, 0, 2);
+        }
+        Due.law(y, "k=0?l=41;s%2?1;n");
+        due.is("two hold", y.holding(-1), 2);
+        due.is("by one law alone", y.shoes(0, 0), 41);
+        due.is("by one law alone, how many", y.shoes(0, 1), 1);
         FootstepsAhead z = new FootstepsAhead();
         for (int w = 0; w < 3; w++) {
             Due.walker(z, 0, 1, 0);

@@ -57,10 +57,15 @@ public final class WalkersTest {
         due.is("of 3, 0", x.place(30, 0), 3);
         due.is("of 3, 1", x.place(30, 1), 4);
         due.is("of 3, 2", x.place(30, 2), -2);
-        int[] first = {10, 0, 10, -1, 1, 1, -1, -1, -1};
+        int[] first = {10, 0, 10, -1, 1, 1, -1, -1, -1}; // in place of MINUTES, none
         for (int what = 0; what < first.length; what++) {
             int want = what == 3 ? 5 : first[what];
             due.is("of 4 " + what, x.of(4, what), want);
+        }
+        for (int v = 1; v < 4; v++) {
+            due.is("way of 4", x.way(4, 0, 10 * v + 1), v);
+            due.is("place of 4", x.place(40 + v, 0), v);
+            due.is("none of 4 behind", x.place(40 + v, 1), -2);
         }
         x.put(0, 0, 6);
         due.is("a way is kept apart from its row", x.place(0, 0), 0);
@@ -126,6 +131,13 @@ public final class WalkersTest {
             due.is("places of way " + v, x.of(1, 5 + v), lengths[v]);
             due.is("places of a way that is not there", x.of(0, 5 + v), v == 0 ? 1 : -1);
         }
+        Due.row(x, 2, 0, 0, 0, 0, 0, 0, 0, 0, 0, 0, 1, 2, 3, 4, 5, 6, 7);
+        due.is("from place 9 on", x.way(0, 2, 97), 1);
+        due.is("its first", x.place(1, 0), 1);
+        due.is("its last", x.place(1, 6), 7);
+        due.is("from place 14 on", x.way(0, 2, 142), 2);
+        due.is("its first", x.place(2, 0), 6);
+        due.is("from place 15 on, one lacks", x.way(0, 2, 152), -1);
         due.is("way 2's first", x.place(12, 0), 3);
         due.is("way 2's last", x.place(12, 1), 4);
     }
