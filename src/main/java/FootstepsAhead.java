@@ -11,6 +11,8 @@ public final class FootstepsAhead {
     private static final int SHELVES = 6;
     private static final int LEAD = 0, START = 1, FALL = 2, MINUTES = 3;
     private static final int MOST_LEAD = 60;
+    /** Sets of WALKERS whose TRACKS are seen. */
+    private static final int SIGHTS = 32;
 
     private final World world;
     private final Law lawInForce;
@@ -1028,8 +1030,6 @@ public final class FootstepsAhead {
 
     /** Which WAY each takes by a DAY, and which DAYS HOLD; reckoned anew only behind a change. */
     private static final class Days {
-        private static final int SIGHTS = 32;
-
         private final World world;
         private final Law law;
         private boolean stale = true;
@@ -1217,7 +1217,6 @@ public final class FootstepsAhead {
     /** What the DAYS that HOLD, or that fit what was read, have in common, and where they part. */
     private static final class Readings {
         private static final int LAST_LOOK = 60, LAST_GUARD = 400;
-        private static final int SIGHTS = 32;
 
         private final World world;
         private final Days days;
