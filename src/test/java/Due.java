@@ -1,6 +1,13 @@
+import java.io.IOException;
+import java.nio.file.Files;
+import java.nio.file.Path;
+
 /** Tallies answers that are not the ones due, and makes what tests need again and again. */
 final class Due {
+    private static final Path DOCUMENT = Path.of("..", "shared", "DOC.md");
+
     private final String name;
+    private String words = "";
     private int asked;
     private int wrong;
 
@@ -8,12 +15,33 @@ final class Due {
         this.name = name;
     }
 
+    /** What comes next is asked by these words of the document; they must stand in it. */
+    void on(String ofDocument) {
+        words = "";
+        is("these words stand in the document: " + ofDocument, Document.TEXT.contains(ofDocument) ? 1 : 0, 1);
+        words = " [" + ofDocument + "]";
+    }
+
     void is(String call, long got, long want) {
         asked++;
         if (got != want) {
             wrong++;
             if (wrong <= 40) {
-                System.out.println(name + ": " + call + " answered " + got + ", due is " + want);
+                System.out.println(name + ": " + call + " answered " + got + ", due is " + want + words);
+            }
+        }
+    }
+
+    /** The document with one blank for all that parts two words; read only by tests that quote it. */
+    private static final class Document {
+        static final String TEXT = read();
+
+        private static String read() {
+            try {
+                return Files.readString(DOCUMENT).replaceAll("\\s+", " ");
+            } catch (IOException unread) {
+                System.out.println("the document is not at " + DOCUMENT.toAbsolutePath() + ": " + unread);
+                return "";
             }
         }
     }
