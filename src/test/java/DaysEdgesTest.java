@@ -366,6 +366,13 @@ public final class DaysEdgesTest {
         y.mend(0, 1, 200);
         y.mend(1, 1, 200);
         due.is("the latest start", y.meet(0, 1), 205);
+        FootstepsAhead z = new FootstepsAhead();
+        for (int walker = 0; walker < 5; walker++) {
+            Due.walker(z, walker, 5, 6);
+            z.mend(walker, 1, walker < 3 ? 3 * walker : 9);
+        }
+        due.is("the last two of five", z.meet(0, 1), 14);
+        due.is("in two places", z.meet(0, 0), 2);
     }
 
     private static void meetNot() {

@@ -321,6 +321,11 @@ public final class ReadingsEdgesTest {
         y.row(0, 1, 0);
         due.is("two fit", y.read(0, 0), 2);
         due.is("at 1, by WALKER 0's first way alone", y.look(0), 251);
+        for (int walker = 2; walker < 5; walker++) {
+            Due.walker(y, 7, 6);
+        }
+        due.is("two fit of five WALKERS", y.read(0, 0), 2);
+        due.is("at 1 still", y.look(0), 251);
     }
 
     private static void tracksOfTheStartPartToo() {
